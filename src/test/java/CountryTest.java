@@ -11,6 +11,7 @@ public final class CountryTest {
         clear();
         readItems();
         readFaults();
+        readToTheEndAlone();
         readTakesThePlaceOfAllButSome();
         due.end();
     }
@@ -216,7 +217,7 @@ public final class CountryTest {
         x.crow(4, 0);
         x.hours(7);
         x.note(0, 1, 2, 3);
-        Due.read(x, text);
+        Due.type(x, text);
         long before = x.digest();
         due.is("7: read \"" + text + "\"", x.read(), -10 - at);
         due.is("7: all stays behind \"" + text + "\"", x.digest(), before);
@@ -280,6 +281,36 @@ public final class CountryTest {
         fault(seven + "place", 92);
         fault("country;place 0 0 0;crow 0 0;crow 0 0;crow 0 0;crow 0 0;", 47);
         fault("country;hours 1;country;", 16);
+    }
+
+    private static void readToTheEndAlone() {
+        CrowMiles x = new CrowMiles();
+        due.is("7: a longer text first", Due.read(x, "country;hours 12;hours  4;"), 3);
+        due.is("7: its figures are gone", Due.read(x, "country;hours 1"), -25);
+        due.is("7: its letters are gone", Due.read(x, "country;hou"), -18);
+        due.is("7: its blanks are gone", Due.read(x, "country;hours 12;hours "), -33);
+        due.is("7: its ends are gone", Due.read(x, "country;hours 12"), -26);
+        due.is("7: its items are gone", Due.read(x, "country;"), 1);
+        StringBuilder blanks = new StringBuilder("country;");
+        while (blanks.length() < 150) {
+            blanks.append(' ');
+        }
+        items(blanks.toString(), 1);
+        blanks.setCharAt(149, '7');
+        fault(blanks.toString(), 149);
+        blanks.setCharAt(149, 'z');
+        fault(blanks.toString(), 149);
+        blanks.replace(142, 150, "hours 12");
+        fault(blanks.toString(), 150);
+        blanks.replace(142, 150, "hours 1;");
+        items(blanks.toString(), 2);
+        fault("zountry;", 0);
+        fault("country;zours 1;", 8);
+        fault("country;hoursz 1;", 8);
+        fault("country;hoursa 1;", 8);
+        fault("country;0hours 1;", 8);
+        fault("country;horsz 1;", 8);
+        fault("country;place 0 0 0;crow 0 0;fly 0z;", 34);
     }
 
     private static void readTakesThePlaceOfAllButSome() {

@@ -27,12 +27,17 @@ final class Due {
         }
     }
 
-    /** Types a text anew and reads it. */
-    static int read(CrowMiles x, String text) {
+    /** Types a text anew. */
+    static void type(CrowMiles x, String text) {
         x.clear();
         for (int i = 0; i < text.length(); i++) {
             x.type(text.charAt(i));
         }
+    }
+
+    /** Types a text anew and reads it. */
+    static int read(CrowMiles x, String text) {
+        type(x, text);
         return x.read();
     }
 

@@ -133,6 +133,17 @@ public final class FarTest {
         z.crow(1, 0);
         due.is("16: a hungry one there: three parts, 5 more each", z.way(1, 0, 3, NONE), 91);
         due.is("16: nothing is changed", z.count(3) + z.count(2), 12);
+        // six elms in a row: 3 from each to the next, however they are numbered
+        CrowMiles u = Due.told("country;place 0 0 0;place 1 5 0;place 1 4 0;place 1 3 0;place 1 2 0;place 1 1 0;"
+                + "place 1 6 0;crow 0 0;");
+        int[] row = {5, 4, 3, 2, 1, 6};
+        due.is("16: over all", u.way(0, 0, 6, NONE), 18);
+        for (int k = 0; k < 6; k++) {
+            due.is("16: over all: " + k, u.way(0, 0, 6, k), row[k]);
+        }
+        due.is("16: over all: end", u.way(0, 0, 6, 6), NOT_SO_MANY);
+        due.is("16: and back to the field", u.way(0, 6, 0, NONE), 25);
+        due.is("16: and back to the field: 0", u.way(0, 6, 0, 0), 1);
         // places without any way between: the first parts of nought are left out
         CrowMiles w = Due.told("country;place 0 5 5;place 0 5 5;place 0 5 5;place 0 5 5;crow 0 0;");
         due.is("16: nought", w.way(0, 0, 3, NONE), 0);
@@ -203,6 +214,26 @@ public final class FarTest {
         due.is("18: 0 to 2", y.clash(0, 0), 2);
         due.is("18: 2 to 0", y.clash(0, 1), 20);
         due.is("18: no 3rd", y.clash(0, 2), NOT_SO_MANY);
+        // seven elms in a row: all that are no neighbours
+        CrowMiles z = Due.told("country;place 1 0 0;place 1 1 0;place 1 2 0;place 1 3 0;place 1 4 0;place 1 5 0;"
+                + "place 1 6 0;crow 0 0;");
+        due.is("18: seven elms", z.clash(0, NONE), 30);
+        due.is("18: seven elms: 0", z.clash(0, 0), 2);
+        due.is("18: seven elms: 4", z.clash(0, 4), 6);
+        due.is("18: seven elms: 5", z.clash(0, 5), 13);
+        due.is("18: seven elms: 29", z.clash(0, 29), 64);
+        due.is("18: seven elms: end", z.clash(0, 30), NOT_SO_MANY);
+        // the third one is PLACE 0
+        CrowMiles w = Due.told("country;place 1 5 0;place 0 0 0;place 0 9 0;crow 0 0;");
+        due.is("18: over 0", w.clash(0, NONE), 2);
+        due.is("18: over 0: 0", w.clash(0, 0), 12);
+        due.is("16: over 0", w.way(0, 1, 2, NONE), 83);
+        due.is("16: over 0: 0", w.way(0, 1, 2, 0), 0);
+        due.is("16: over 0: 1", w.way(0, 1, 2, 1), 2);
+        due.is("16: over all as they are numbered", z.way(0, 0, 6, NONE), 18);
+        due.is("16: over all as they are numbered: 0", z.way(0, 0, 6, 0), 1);
+        due.is("16: over all against their numbers", z.way(0, 6, 0, NONE), 18);
+        due.is("16: over all against their numbers: 5", z.way(0, 6, 0, 5), 0);
         CrowMiles one = Due.told("country;place 0 0 0;place 1 5 0;crow 0 0;");
         due.is("18: no third PLACE", one.clash(0, NONE), 0);
     }
@@ -258,6 +289,14 @@ public final class FarTest {
         x.flies(1, 1);
         due.is("20: 70, 76, 82, 88, 70, 70", x.standard(0, 1), 70);
         due.is("20: 73, 79, 85, 70", x.standard(1, 0), 73);
+        CrowMiles y = Due.told("country;place 0 0 0;place 0 1 0;place 0 9 9;crow 0 0;crow 0 2;crow 0 0;");
+        y.flies(0, 1);
+        y.flies(1, 1);
+        y.flies(2, 2);
+        due.is("20: others from a, others to b", y.standard(0, 1), 10);
+        due.is("20: others to b", y.standard(2, 1), 170);
+        due.is("20: others from a", y.standard(0, 2), 180);
+        due.is("20: none of these", y.standard(1, 2), NONE);
         x.forget(2);
         due.is("20: forgotten", x.standard(0, 1), NONE);
         due.is("20: from 2", x.standard(2, 0), BAD);

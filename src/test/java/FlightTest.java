@@ -54,6 +54,14 @@ public final class FlightTest {
         due.is("8: the first DEED", x.book(0, 0), 100);
         due.is("8: the last DEED", x.book(11, 0), 10);
         due.is("8: no 13th", x.book(12, 0), NO);
+        CrowMiles y = twoFields();
+        for (int i = 0; i < 15; i++) {
+            y.flies(0, 1 - i % 2);
+        }
+        for (int k = 0; k < 12; k++) {
+            due.is("8: DEED " + k + " of the last 12", y.book(k, 0), k % 2 == 0 ? 100 : 10);
+            due.is("8: the length of DEED " + k, y.book(k, 1), 70 + 3 * Math.min(k + 3, 9));
+        }
     }
 
     private static CrowMiles nearTheEnd(int hour) {
