@@ -1034,7 +1034,7 @@ public final class CrowMiles {
         private int start;
         private int value;
 
-        /** How many items there are; less than that of 0: the fault, always where the last token began. */
+        /** How many items there are, or the fault, which is always where the last token began. */
         int readAll(byte[] text, int textLength) {
             bytes = text;
             length = Math.min(textLength, text.length);
