@@ -3,16 +3,39 @@ final class Due {
     private final String test;
     private int wrong;
     private int calls;
+    private int sentences;
+    private int callsAtSentence;
+    private String sentence = "";
 
     Due(String test) {
         this.test = test;
     }
 
-    void is(String call, long got, long want) {
-        calls++;
-        if (got != want) {
+    /** The document's sentence, as it stands there, that the answers behind this belong to. */
+    void says(String words) {
+        endSentence();
+        sentences++;
+        sentence = "\"" + words + "\": ";
+    }
+
+    private void endSentence() {
+        // a sentence without a single answer is one that nobody looks at
+        if (!sentence.isEmpty() && calls == callsAtSentence) {
             wrong++;
-            System.out.println(test + ": " + call + " answered " + got + ", due is " + want);
+            System.out.println(test + ": " + sentence + "no answer was looked at");
+        }
+        callsAtSentence = calls;
+    }
+
+    void is(String call, long got, long want) {
+        same(call, String.valueOf(got), String.valueOf(want));
+    }
+
+    void same(String call, String got, String want) {
+        calls++;
+        if (!got.equals(want)) {
+            wrong++;
+            System.out.println(test + ": " + sentence + call + " answered " + got + ", due is " + want);
         }
     }
 
@@ -21,7 +44,9 @@ final class Due {
     }
 
     void end() {
-        System.out.println(test + ": " + calls + " answers, " + wrong + " not as due");
+        endSentence();
+        System.out.println(test + ": " + (sentences == 0 ? "" : sentences + " sentences, ")
+                + calls + " answers, " + wrong + " not as due");
         if (wrong != 0) {
             System.exit(1);
         }

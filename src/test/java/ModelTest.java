@@ -3,15 +3,16 @@ import java.util.Arrays;
 import java.util.Random;
 
 /**
- * All promises: runs of 512 calls, made up by fixed seeds, on the class and on the model; every answer, and the
- * digest behind every call, must be the same, and no call may throw. An argument RUNS= tells how many runs.
+ * All promises: runs of 256 calls, made up by fixed seeds, on the class and on the model; every answer, and the
+ * digest behind every call, must be the same, and no call may throw. With the digests an object has 512 calls, which
+ * is as many as are promised. An argument RUNS= tells how many runs.
  */
 public final class ModelTest {
     private static final Due due = new Due("ModelTest");
-    private static final int CALLS = 512;
+    private static final int CALLS = 256;
 
     public static void main(String[] args) throws Exception {
-        int runs = 600;
+        int runs = 1500;
         for (String arg : args) {
             if (arg.startsWith("RUNS=")) {
                 runs = Integer.parseInt(arg.substring(5));
@@ -46,10 +47,16 @@ public final class ModelTest {
         if (run % 5 != 4) {
             buildUp();
         }
+        if (run % 7 == 5) {
+            // near the most that one may be tired
+            for (int i = 0; i < 98; i++) {
+                call("flies", 0, i % 2);
+            }
+        }
         while (done < CALLS && same) {
             if (random.nextInt(run % 6 == 5 ? 4 : 300) == 0) {
                 readText();
-            } else if (random.nextInt(x.count(1) == 0 ? 10 : 150) == 0) {
+            } else if (random.nextInt(model.count(1) == 0 ? 10 : 150) == 0) {
                 buildUp();
             } else {
                 anyCall();
@@ -79,6 +86,10 @@ public final class ModelTest {
         "owner cl", "wind cppo", "years sy", "part 2", "image 2", "from 2", "status 3", "count 9", "digest",
         "flies cp", "flies cp", "flies cp", "flies cp", "flies cp", "flies cp", "undo", "note N", "mark M"};
 
+    /** The limits of all numbers, on both sides. */
+    private static final int[] EDGES = {-3, -2, -1, 0, 1, 2, 3, 4, 5, 6, 7, 8, 9, 10, 11, 12, 18, 19, 23, 24, 60, 61, 98, 99,
+        100, 127, 128, 499, 500, 501, 899, 900, 901, 999999, 1000000, Integer.MIN_VALUE, Integer.MAX_VALUE};
+
     private void anyCall() throws Exception {
         String[] shape = SHAPES[random.nextInt(SHAPES.length)].split(" ");
         String name = shape[0];
@@ -87,10 +98,8 @@ public final class ModelTest {
             return;
         }
         int[] a = shape.length == 1 ? new int[0] : argumentsOf(shape[1]);
-        if (a.length > 0 && random.nextInt(25) == 0) {
-            int[] edges = {-1, -2, -3, 2, 3, 6, 7, 8, 9, 10, 11, 12, 19, 24, 61, 100, 128, 500, 501, 900, 901, 1000000,
-                Integer.MIN_VALUE, Integer.MAX_VALUE};
-            a[random.nextInt(a.length)] = edges[random.nextInt(edges.length)];
+        if (a.length > 0 && random.nextInt(run % 4 == 1 ? 3 : 25) == 0) {
+            a[random.nextInt(a.length)] = EDGES[random.nextInt(EDGES.length)];
         }
         call(name, a);
     }
@@ -215,8 +224,9 @@ public final class ModelTest {
             long got = ((Number) CrowMiles.class.getMethod(name, types).invoke(x, boxed)).longValue();
             long want = ((Number) Model.class.getDeclaredMethod(name, types).invoke(model, boxed)).longValue();
             due.is(told, got, want);
-            due.is(told + ", digest behind it", x.digest(), model.digest());
-            same = got == want && x.digest() == model.digest();
+            long digest = x.digest();
+            due.is(told + ", digest behind it", digest, model.digest());
+            same = got == want && digest == model.digest();
         } catch (InvocationTargetException e) {
             due.is(told + " threw " + e.getCause(), 1, 0);
             same = false;

@@ -10,12 +10,16 @@ public final class RoomTest {
         com.sun.management.ThreadMXBean threads = (com.sun.management.ThreadMXBean) ManagementFactory.getThreadMXBean();
         long id = Thread.currentThread().getId();
         // the first time the machine makes things of its own for what it loads
-        CrowMiles x = new CrowMiles();
-        allCalls(x);
+        allCalls(new CrowMiles());
         threads.getThreadAllocatedBytes(id);
 
+        // one for each time, as no object is promised for more than 512 calls
+        CrowMiles[] fresh = new CrowMiles[50];
+        for (int i = 0; i < fresh.length; i++) {
+            fresh[i] = new CrowMiles();
+        }
         long before = threads.getThreadAllocatedBytes(id);
-        for (int i = 0; i < 50; i++) {
+        for (CrowMiles x : fresh) {
             allCalls(x);
         }
         long made = threads.getThreadAllocatedBytes(id) - before;
