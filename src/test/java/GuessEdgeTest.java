@@ -22,6 +22,7 @@ public final class GuessEdgeTest {
         windLowestTerms();
         yearsNumbers();
         yearsBySeed();
+        yearsCut();
         yearsCrowNotThere();
         yearsRest();
         yearsBeyondTheLastHour();
@@ -342,6 +343,24 @@ public final class GuessEdgeTest {
         due.is("nothing is changed", x.count(2) + x.count(3) + x.count(7), 0);
     }
 
+    /** Seeds whose first X is a multiple, or beside one: a plain one makes 10, a certified one 9, a hungry one 5 more. */
+    private static void yearsCut() {
+        due.says("flies to PLACE X by 1048576 (cut), by 7 left over");
+        CrowMiles x = Due.told(ROW + "crow 0 0;crow 4 0;crow 1 0;hours 12;");
+        due.is("X is 1605 times 1048576: 0 to 2", x.years(501379, 1), 20);
+        due.is("X is 969 times 1048576, and 1: 0 to 3", x.years(102888, 1), 30);
+        due.is("X is 193 times 1048576, less 1: 0 to 3", x.years(899870, 1), 30);
+        due.is("X is 1232 times 1048576, less 2: 1 to 6", x.years(249785, 1), 54);
+        due.says("CROW X by 65536 (cut), by 3 left over");
+        due.is("X is 27761 times 65536: 2 to 6", x.years(829059, 1), 65);
+        due.is("X is 3522 times 65536: 0 to 3", x.years(108163, 1), 30);
+        due.is("X is 11617 times 65536, less 1: 0 to 5", x.years(178974, 1), 50);
+        due.is("X is 15779 times 65536, less 1: 1 to 6", x.years(834334, 1), 54);
+        due.says("by 2147483648 what is left over");
+        due.is("X is 2147482477, the most there is: 1 to 3", x.years(518020, 1), 27);
+        due.is("X is 2208, the least there is: 0 stays at 0", x.years(388515, 1), 0);
+    }
+
     private static void yearsCrowNotThere() {
         due.says("CROW X by 65536 (cut), by 3 left over (not there: the HOUR is one more)");
         // by seed 1: crow 2, 1, 0, ..; a hungry one at 0 is let go first at hour 2 more
@@ -357,9 +376,17 @@ public final class GuessEdgeTest {
     private static void yearsRest() {
         due.says("flies to PLACE X by 1048576 (cut), by 7 left over, if that is there and another one, else she rests");
         // by seed 999998 crow 2 goes to 2, crow 0 to 1
-        CrowMiles x = Due.told("country;place 0 0 0;place 0 1 0;crow 0 0;crow 0 0;crow 0 0;");
+        CrowMiles x = Due.told("country;place 0 0 0;place 0 1 0;crow 0 0;crow 0 1;crow 0 1;");
         due.is("PLACE 2 is not there: she rests", x.years(999998, 1), 0);
         due.is("PLACE 1 is", x.years(999998, 2), 10);
+        // by seed 999999 crow 1 goes to 4, crow 2 to 6
+        due.is("PLACE 4 is far from there", x.years(999999, 1), 0);
+        due.is("PLACE 6 too", x.years(999999, 2), 0);
+        // what was there in another country is not there
+        CrowMiles smaller = Due.told(ROW + "crow 0 0;crow 0 0;crow 0 0;");
+        due.is("PLACE 2 is there", smaller.years(999998, 1), 20);
+        Due.read(smaller, "country;place 0 0 0;place 0 1 0;crow 0 0;crow 0 1;crow 0 1;");
+        due.is("PLACE 2 is there no more", smaller.years(999998, 1), 0);
         CrowMiles y = Due.told("country;place 0 0 0;place 0 1 0;place 0 2 0;crow 0 0;crow 0 0;crow 0 0;");
         due.is("PLACE 2 is there", y.years(999998, 1), 20);
         y.flies(2, 2);

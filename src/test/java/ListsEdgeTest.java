@@ -22,6 +22,7 @@ public final class ListsEdgeTest {
         standardLeastOfLikeOnes();
         standardOfTheLastTwelve();
         book();
+        bookInOrder();
         ownerOfFewPlaces();
         ownerTens();
         ownerRests();
@@ -215,6 +216,11 @@ public final class ListsEdgeTest {
         // over the elm from either end of the line to the other, in numbers 0, 3 and 2
         list("pairs", 4, ones(2, 20, 23, 32), k -> x.clash(0, k));
         due.is("k = -2", x.clash(0, -2), -10);
+        due.says("some third PLACE c");
+        CrowMiles first = Due.told("country;place 1 5 0;place 0 0 0;place 0 9 0;crow 0 0;");
+        list("the first of all", 2, ones(12, 21), k -> first.clash(0, k));
+        CrowMiles last = Due.told("country;place 0 0 0;place 0 9 0;place 1 5 0;crow 0 0;");
+        list("the last of all", 2, ones(1, 10), k -> last.clash(0, k));
     }
 
     // ---- late
@@ -340,6 +346,26 @@ public final class ListsEdgeTest {
         due.is("DEED 12 of 13", x.book(12, 0), NO);
     }
 
+    private static void bookInOrder() {
+        due.says("a DEED (a, b, how FAR it was; 12 at most: then the first is forgotten)");
+        // fields at 0, 1, 2, 3, 4, 6 and 9: no two of these flights are alike
+        CrowMiles x = Due.told("country;place 0 0 0;place 0 1 0;place 0 2 0;place 0 3 0;place 0 4 0;place 0 6 0;place 0 9 0;"
+                + "crow 0 0;");
+        int[] trail = {0, 6, 0, 5, 1, 6, 2, 5, 3, 6, 4, 0, 3, 1, 2};
+        int[] lengths = {90, 90, 60, 50, 80, 70, 40, 30, 60, 50, 40, 30, 20, 10};
+        for (int flights = 1; flights <= 14; flights++) {
+            due.is("flight " + flights, x.flies(0, trail[flights]), lengths[flights - 1]);
+            int first = Math.max(0, flights - 12);
+            int together = 0;
+            for (int i = first; i < flights; i++) {
+                due.is("DEED " + (i - first) + " of " + flights, x.book(i - first, 0), 100 * trail[i] + 10 * trail[i + 1]);
+                due.is("its length", x.book(i - first, 1), lengths[i]);
+                together += lengths[i];
+            }
+            due.is("lengths of " + flights, x.count(4), together);
+        }
+    }
+
     // ---- owner
 
     private static void owner(String what, String text, int... pairs) {
@@ -355,6 +381,10 @@ public final class ListsEdgeTest {
         owner("two PLACES, from 1", "country;place 0 0 0;place 0 9 9;crow 0 1;", 0);
         owner("two PLACES, flown", "country;place 0 0 0;place 0 9 9;crow 0 0;fly 0 1;", 0);
         owner("three PLACES, from 1", "country;place 0 0 0;place 0 1 0;place 0 9 9;crow 0 1;", 20);
+        // from the last one it is 9 to 0, 1 to 1, 4 to 2
+        owner("four PLACES, from 3", "country;place 0 0 0;place 0 8 0;place 0 5 0;place 0 9 0;crow 0 3;", 1);
+        // from the same spot by number 1 it is 0 to 0, from 0 to 1 it is 10
+        owner("three PLACES, a hall, from 1", "country;place 0 0 0;place 5 0 0;place 0 5 0;crow 0 1;", 20);
         CrowMiles x = Due.told("country;place 0 0 0;place 0 9 9;crow 0 0;");
         due.is("k = -2", x.owner(0, -2), -10);
         due.is("k = -1", x.owner(0, -1), 1);
@@ -385,6 +415,10 @@ public final class ListsEdgeTest {
         owner("as much elsewhere", "country;place 0 0 0;place 0 1 0;place 0 6 0;place 0 0 6;crow 0 0;", 21, 31);
         // 10, 64 to the sheep, 60: by ten the last two are alike
         owner("as much by ten", "country;place 0 0 0;place 0 1 0;place 2 6 0;place 0 0 6;crow 0 0;", 21, 31);
+        // 10, 66 to the sheep at hour 2, 60: by ten the last two are alike
+        owner("as much by ten at the most", "country;place 0 0 0;place 0 1 0;place 2 6 0;place 0 0 6;crow 0 0;hours 2;", 21, 31);
+        // hungry at hour 12: 15, 19 to the sheep, 95: by ten the first two are alike
+        owner("as little by ten", "country;place 0 0 0;place 0 1 0;place 2 0 1;place 0 9 0;crow 1 0;hours 12;", 31, 32);
         // 10, 60, 70: more at 3
         owner("more elsewhere", "country;place 0 0 0;place 0 1 0;place 0 6 0;place 0 0 7;crow 0 0;", 31);
     }

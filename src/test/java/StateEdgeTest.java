@@ -291,7 +291,14 @@ public final class StateEdgeTest {
             long digest = x.digest();
             x.country();
             x.place(1, 1, 1);
+            x.place(2, 7, 8);
+            x.crow(4, 1);
+            x.flies(0, 0);
             x.hours(7);
+            for (int n = 0; n < 6; n++) {
+                x.note(0, 7 + n, 7, 7);
+                x.mark(0, 7 + n, 7, 7, 7);
+            }
             due.is("from(-1)", x.from(-1), BAD);
             due.is("from(2)", x.from(2), BAD);
             due.is("from(" + i + ")", x.from(i), 1);

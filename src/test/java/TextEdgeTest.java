@@ -79,6 +79,11 @@ public final class TextEdgeTest {
         read(filled("country;", 150), 1);
         fault(filled("country;", 149), "x");
         fault(filled("country;hours 9", 150), "");
+        fault(filled("country;", 143) + "hours 9", "");
+        fault(filled("country;", 145) + "hours", "");
+        fault(filled("country;", 146), "hour");
+        fault(filled("country;hours", 148) + "99", "");
+        fault(filled("country;hours", 149) + "9", "");
     }
 
     private static void items() {
@@ -490,5 +495,14 @@ public final class TextEdgeTest {
         due.is("again", x.clear(), 0);
         due.is("room for one again", x.type(127), 1);
         due.is("FULLs", x.status(2), 1);
+        // behind a longer text nothing of that is left
+        String longer = "country;place 0 9 9;hours 12;hours  4;";
+        for (String text : new String[] {"country;place 0 9 9;hours 1", "country;place 0 9 9;hours", "country;place 0 9 9",
+            "country;place 0 9 9;hours 12", "country;place 0 9 9;hours 12;hours "}) {
+            CrowMiles y = Due.told(longer);
+            due.is("cut off behind \"" + text + "\"", Due.read(y, text), -10 - text.length());
+        }
+        CrowMiles y = Due.told(longer);
+        due.is("cut off in a word", Due.read(y, "country;place 0 9 9;hou"), -30);
     }
 }
